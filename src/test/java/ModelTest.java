@@ -222,6 +222,15 @@ public final class ModelTest {
         return r;
     }
 
+    /** Four of any ints: none may bring the program to throw. */
+    private int[] wild() {
+        int[] r = new int[4];
+        for (int i = 0; i < r.length; i++) {
+            r[i] = below(3) == 0 ? below(8) : below(2) == 0 ? ODD[below(ODD.length)] : (int) (state >>> 16);
+        }
+        return r;
+    }
+
     private static boolean feedBoth(TravelMarks x, PlainPort y, String text) {
         boolean same = true;
         for (int at = 0; at < text.length(); at += 8) {
@@ -289,7 +298,7 @@ public final class ModelTest {
                     if (got != due) return wrong(run, "port of \"" + text + "\" answered " + got + ", due is " + due);
                 }
             } else {
-                int[] r = args(method, y);
+                int[] r = below(15) == 0 ? wild() : args(method, y);
                 long eight = state;
                 long got = call(x, method, eight, r[0], r[1], r[2], r[3]);
                 long due = call(y, method, eight, r[0], r[1], r[2], r[3]);

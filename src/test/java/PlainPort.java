@@ -228,6 +228,7 @@ final class PlainPort {
     }
 
     static final class Fault extends RuntimeException {
+        private static final long serialVersionUID = 1;
         final int place;
         Fault(int place) { super(null, null, false, false); this.place = place; }
     }
