@@ -21,7 +21,7 @@ public final class TravelMarks {
     private static final int[] ABOVE = {-1, 0, 0, 1, 2, 0};
 
     private static final int ROWS = 10, ROW_PARTS = 3;
-    private static final int SHEETS = 4, ITEMS = 40, BYTES = 0, SHORTS = 1, INTS = 2, LONGS = 3, MISSING = -1;
+    private static final int SHEETS = 4, ITEMS = 40, BYTES = 0, SHORTS = 1, LONGS = 3, MISSING = -1;
     private static final int SHELVES = 4, A_MARK = 0, A_ROW = 1, EMPTY = 2, AS_ROW = 10;
     private static final int ACTS = 4, ITCHES = 0, CRAWLS = 1, PARTS = 2, BITES = 3;
 
@@ -687,7 +687,7 @@ public final class TravelMarks {
         int count;
         int hour;
         int z = 1;
-        /** The MARKS that went over in the latest HOUR, as a set. */
+        /** The MARKS that went over in the latest HOUR that was passed on this one, as a set. */
         int went;
 
         Port() {
@@ -702,7 +702,6 @@ public final class TravelMarks {
             }
             count = 0;
             hour = 0;
-            went = 0;
         }
 
         void become(Port other) {
@@ -715,7 +714,6 @@ public final class TravelMarks {
             count = other.count;
             hour = other.hour;
             z = other.z;
-            went = other.went;
         }
 
         boolean add(int newKind, int newInk, int who) {
@@ -1252,14 +1250,14 @@ public final class TravelMarks {
 
         /** Runs the body of an ACT that a KIND has, or the next one above it; x is the ACT's number. */
         private static int run(Deed deed, int from, int act, int x, int depth) {
-            int has = withBody(from, act);
-            if (deed.partedBy0 || has == NO_KIND || depth > DEEPEST) {
+            int holder = withBody(from, act);
+            if (deed.partedBy0 || holder == NO_KIND || depth > DEEPEST) {
                 return 0;
             }
-            int body = BODIES[has * ACTS + act];
+            int body = BODIES[holder * ACTS + act];
             deed.note(body);
             int own = deed.kind;
-            int up = ABOVE[has];
+            int up = ABOVE[holder];
             int deeper = depth + 1;
             switch (body) {
                 case 10: return x * 3 + deed.number * 2;

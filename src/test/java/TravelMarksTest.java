@@ -144,6 +144,7 @@ public final class TravelMarksTest {
             {"touch 0:1", -109}, {"touch 0:1 with", -114}, {"touch 0:1 with 2", -116}, {"load", -104}, {"load 3", -106},
             {"mark on 8;", -108}, {"mark in 1;", -105}, {"mark on x;", -108}, {"mark on ;", -108}, {"mark 1;", -105},
             {"mark on 0001;", -108}, {"mark on 1 ink 100;", -114}, {"mark on 1 ink 0009;", -114}, {"mark on 1 ink;", -113},
+            {"markz on 1;", -100}, {"mark onz 1;", -105}, {"mark aon 1;", -105},
             {"mark on 1 on 2;", -110}, {"mark on 1 ink 2 ink 3;", -116}, {"mark on 1 2;", -110}, {"mark on 12;", -108},
             {"mark on 99999999999999;", -108}, {"mark on 4294967296;", -108},
             {"marks on 1;", -100}, {"mar on 1;", -100}, {"Mark on 1;", -100}, {";", -100}, {" 5", -101}, {"on 1;", -100},
@@ -165,8 +166,23 @@ public final class TravelMarksTest {
         }
     }
 
+    /** A text ends where its bytes end: what THE TAPE had behind them before is no part of it. */
+    private static void textsOnOneTape() {
+        TravelMarks x = new TravelMarks();
+        due("port() of letters", ported(x, "z".repeat(200)), -100);
+        due("port() of a NAME alone", ported(x, "mark"), -104);
+        due("port() of blanks and a NAME", ported(x, " ".repeat(196) + "mark"), -300);
+        due("port() of digits", ported(x, "load " + "1".repeat(195)), -105);
+        due("port() of a NUMBER last", ported(x, "load 3"), -106);
+        due("port() of blanks and a NUMBER", ported(x, " ".repeat(194) + "load 3"), -300);
+        due("port() of blanks", ported(x, " ".repeat(200)), 0);
+        due("port() of the longest text", ported(x, " ".repeat(190) + "mark on 1;"), 1);
+        due("port() of orders as short as can be", ported(x, "mark on1;".repeat(8) + "load1;".repeat(21)), 8);
+    }
+
     private static void port() {
         texts();
+        textsOnOneTape();
         TravelMarks x = told("ship on 2; snake on 3 ink 0; anchor on 4 ink 99; dragon on 5; name on 7; mark on 0;"
             + "touch 0:1 with 0;touch 5:6 with 7;touch 5:7 with 5;load 8;fade 7;tide 6;chance 5;");
         dueMark(x, 0, SHIP, 9, 2);
@@ -530,6 +546,12 @@ public final class TravelMarksTest {
         x.hour();
         dueMark(x, 0, ANCHOR, 20, 6);
         due("state(0)", x.state(0), 2);
+        // What went over in the HOUR before stays where it is when others touch by chance.
+        x = told("mark on 5; mark on 6; touch 0:5 with 7; chance 99;");
+        x.hours(1);
+        x.hour();
+        dueMark(x, 0, MARK, 8, 7);
+        dueMark(x, 1, MARK, 8, 1);
         // From 6: 6, 15 by 100, and 6 once more: nothing but three draws.
         x = told("mark on 6; chance 16;");
         x.seed(6);
@@ -584,6 +606,8 @@ public final class TravelMarksTest {
         due("state(0)", x.state(0), 7);
         due("state(6)", x.state(6), BAD);
         due("state(-1)", x.state(-1), BAD);
+        due("state(5) where most are ON 0", told("mark on 0; mark on 0; mark on 3;").state(5), 2);
+        due("state(5) where most are ON 7", told("mark on 0; mark on 7; mark on 7;").state(5), 2);
         x = told("touch 0:0 with 1; touch 1:2 with 3; touch 2:4 with 5; touch 3:6 with 7;");
         due("state(3)", x.state(3), 4);
         due("state(5)", x.state(5), 0);
@@ -720,6 +744,13 @@ public final class TravelMarksTest {
         for (int[] b : BAD_WISHES) {
             due("inkFor of what is not as told", x.inkFor(b[0], b[1], b[2]), BAD);
         }
+        // Ten ways to and fro at 9 each, and one more.
+        x = told("mark on 0;touch 0:0 with 1;touch 1:0 with 1;touch 2:0 with 1;touch 3:0 with 1;touch 4:0 with 1;"
+            + "touch 5:0 with 2;fade 9;");
+        due("inkFor(0, 2, 12)", x.inkFor(0, 2, 12), 91);
+        due("inkFor(0, 2, 11)", x.inkFor(0, 2, 11), NONE);
+        x.mind(0, SHIP, 99);
+        due("inkFor(0, 2, 30) with none", x.inkFor(0, 2, 30), NONE);
         x = told("dragon on 6; touch 0:1 with 6; tide 7;");
         due("inkFor of a dragon", x.inkFor(0, 1, 1), 7);
         x = told("mark on 7; touch 5:0 with 7;");
@@ -1056,7 +1087,9 @@ public final class TravelMarksTest {
         due("sheet of n above 40", x.sheet(1, 1, 41), BAD);
         due("sheet of a size below 0", x.sheet(1, 1, -1), -14);
         due("item of the one before", x.item(1, 1, 39), 5);
+        due("put 0", x.put(1, 0, 6), 1);
         due("sheet(1, 1, 40) once more", x.sheet(1, 1, 40), 1);
+        due("item(1, 1, 0)", x.item(1, 1, 0), 0);
         due("item(1, 1, 39)", x.item(1, 1, 39), 0);
         due("sheet(2, -1, 99)", x.sheet(2, -1, 99), 1);
         due("item of a missing one", x.item(2, 2, 0), -11);
