@@ -2,7 +2,7 @@ import java.util.Arrays;
 
 /** Long runs of calls, the same ones each time, on the program and on PlainPort: every answer must be the same. */
 public final class ModelTest {
-    private static final int RUNS = 1000, CALLS = 512, CALLS_OF_ALIKE = 127;
+    private static final int RUNS = 1500, CALLS = 512, CALLS_OF_ALIKE = 127, CALLS_OF_TEXT = 26;
     private static final int METHODS = 44;
     private static final String[] WORDS = {
         "mark", "ship", "snake", "anchor", "dragon", "name", "on", "ink", "touch", "with", "load", "fade", "tide",
@@ -286,7 +286,7 @@ public final class ModelTest {
         PlainPort y = new PlainPort();
         int calls = setUp(x, y);
         int untilAlike = 60;
-        while (calls < CALLS - CALLS_OF_ALIKE) {
+        while (calls < CALLS - CALLS_OF_ALIKE - CALLS_OF_TEXT) {
             int method = nextMethod();
             if (method == 2 && below(2) == 0 || method == 3 && below(4) != 0) {
                 String text = text();
@@ -307,7 +307,7 @@ public final class ModelTest {
                 }
             }
             calls++;
-            if (calls >= untilAlike) {
+            if (calls >= untilAlike && calls <= CALLS - 2 * CALLS_OF_ALIKE - CALLS_OF_TEXT) {
                 if (!alike(x, y)) return wrong(run, "not alike behind promise " + method);
                 calls += CALLS_OF_ALIKE;
                 untilAlike = calls + 60;
