@@ -1,80 +1,5 @@
 /** Promise by promise: ordinary calls, the edges that the document names, and each refusal in its order. */
-public final class TravelMarksTest {
-    private static final int BAD = TravelMarks.BAD, FULL = TravelMarks.FULL, NONE = TravelMarks.NONE;
-    private static final int LEAST = Integer.MIN_VALUE, MOST = Integer.MAX_VALUE;
-    private static final int MARK = 0, SHIP = 1, SNAKE = 2, ANCHOR = 3, DRAGON = 4, NAME = 5;
-
-    /**
-     * The ship on 0 goes to 1 once there is room: the other ship has INK for nine ways from 1 to 2 and back, and one
-     * more. The two touch as the 60th HOUR begins, or as the 61st does.
-     */
-    private static final String FREE_BEHIND_60 =
-        "ship on 0; ship on 1 ink 19; load 1; fade 0; touch 0:1 with 2; touch 1:2 with 1; touch 5:0 with 1;";
-    private static final String FREE_BEHIND_61 =
-        "ship on 0; ship on 1 ink 19; load 1; fade 0; touch 1:1 with 2; touch 2:2 with 1; touch 0:0 with 1;";
-
-    private static int wrong = 0;
-    private static int promise = 0;
-
-    private static void due(String call, long got, long want) {
-        if (got != want) {
-            wrong++;
-            System.out.println("promise " + promise + ": " + call + " answered " + got + ", due is " + want);
-        }
-    }
-
-    /** A text comes to THE TAPE. */
-    private static void tell(TravelMarks x, String text) {
-        for (int at = 0; at < text.length(); at += 8) {
-            int n = Math.min(8, text.length() - at);
-            long eight = 0;
-            for (int i = n - 1; i >= 0; i--) {
-                eight = eight << 8 | text.charAt(at + i);
-            }
-            x.feed(eight, n);
-        }
-    }
-
-    private static int ported(TravelMarks x, String text) {
-        tell(x, text);
-        return x.port();
-    }
-
-    private static TravelMarks told(String text) {
-        TravelMarks x = new TravelMarks();
-        int answer = ported(x, text);
-        if (answer < 0) {
-            wrong++;
-            System.out.println("promise " + promise + ": \"" + text + "\" is refused: " + answer);
-        }
-        return x;
-    }
-
-    private static void dueRow(TravelMarks x, int i, int on, int ink, int went) {
-        due("row(" + i + ", 0)", x.row(i, 0), on);
-        due("row(" + i + ", 1)", x.row(i, 1), ink);
-        due("row(" + i + ", 2)", x.row(i, 2), went);
-    }
-
-    private static void dueMark(TravelMarks x, int mark, int kind, int ink, int on) {
-        due("of(" + mark + ", 0)", x.of(mark, 0), kind);
-        due("of(" + mark + ", 1)", x.of(mark, 1), ink);
-        due("of(" + mark + ", 2)", x.of(mark, 2), on);
-    }
-
-    private static void dueTrace(TravelMarks x, int... bodies) {
-        due("many(6)", x.many(6), bodies.length);
-        for (int i = 0; i < bodies.length; i++) {
-            due("trace(" + i + ")", x.trace(i), bodies[i]);
-        }
-        due("trace(" + bodies.length + ")", x.trace(bodies.length), NONE);
-    }
-
-    private static void dueAct(TravelMarks x, int act, int with, int answer, int... bodies) {
-        due("act(0, " + act + ", " + with + ")", x.act(0, act, with), answer);
-        dueTrace(x, bodies);
-    }
-
+public final class TravelMarksTest extends Checks {
     // ---- 1 to 3
 
     private static void newObject() {
@@ -822,13 +747,6 @@ public final class TravelMarksTest {
         due("apartFor within 0", x.apartFor(0, 1, 0), 0);
     }
 
-    private static void sheetOf(TravelMarks x, int sheet, int sort, int... items) {
-        x.sheet(sheet, sort, items.length);
-        for (int i = 0; i < items.length; i++) {
-            x.put(sheet, i, items[i]);
-        }
-    }
-
     private static void dueFits(TravelMarks x, int mark, int many, int least, int... items) {
         for (int sort = 0; sort < 4; sort++) {
             sheetOf(x, sort, sort, items);
@@ -1454,7 +1372,6 @@ public final class TravelMarksTest {
     public static void main(String[] args) {
         first22();
         last22();
-        System.out.println(wrong == 0 ? "all promises hold" : wrong + " answers are not as due");
-        if (wrong != 0) System.exit(1);
+        finish("all promises hold");
     }
 }
