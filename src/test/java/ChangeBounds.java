@@ -9,6 +9,7 @@ final class ChangeBounds extends Checks {
     }
 
     static void run() {
+        numbersOfRefusals();
         refusedInPort();
         refusedInTime();
         refusedInTried();
@@ -78,6 +79,29 @@ final class ChangeBounds extends Checks {
 
     private static void sentenceOfRefusal() {
         sentence(TERMS, "such a call changes nothing (but that THE TAPE is used up by port()); of several the first named");
+    }
+
+    private static void numbersOfRefusals() {
+        sentence(TERMS, "BAD (-1) there is no such thing, or a number is not as told; FULL (-2); NONE (-3)");
+        due(TravelMarks.BAD, -1);
+        due(TravelMarks.FULL, -2);
+        due(TravelMarks.NONE, -3);
+        TravelMarks x = full();
+        due(x.of(8, 0), -1);
+        due(x.mark(0, 0, 0), -2);
+        due(x.touchOf(4, 0), -3);
+
+        sentence(TERMS, "-11 nothing where something is asked");
+        due(x.taken(2, 0), -11);
+        sentence(TERMS, "-12 a place outside");
+        due(x.item(0, 0, 5), -12);
+        sentence(TERMS, "-13 a thing of another sort or kind");
+        dueAll(-13, x.item(0, 1, 0), x.taken(0, 1));
+        sentence(TERMS, "-14 a size below 0");
+        due(x.sheet(0, 0, -1), -14);
+        sentence(TERMS, "-15 parted by 0");
+        x.move(0, 0);
+        due(x.act(0, 2, 5), -15);
     }
 
     // ---- refused calls: where two refusals would stand, the one that is named first

@@ -11,7 +11,9 @@ abstract class Checks {
     static final int NO_ROW = -9, NOTHING = -11, OUTSIDE = -12, OTHER_SORT = -13, BELOW_0 = -14, PARTED_BY_0 = -15;
     static final int LEAST = Integer.MIN_VALUE, MOST = Integer.MAX_VALUE;
     static final int MARK = 0, SHIP = 1, SNAKE = 2, ANCHOR = 3, DRAGON = 4, NAME = 5;
-    static final int TERMS = 0, PROMISES = 44;
+    /** What is no promise's is told by these two. */
+    static final int ABOUT = -1, TERMS = 0;
+    static final int PROMISES = 44;
     static final String[] KINDS = {"mark", "ship", "snake", "anchor", "dragon", "name"};
     static final String[] LAWS = {"load", "fade", "tide", "chance"};
 
@@ -34,7 +36,7 @@ abstract class Checks {
     static void complain(String what) {
         wrong++;
         String quoted = sentence.isEmpty() ? "" : " \"" + sentence + "\"";
-        System.out.println((promise == TERMS ? "terms" : "promise " + promise) + quoted + ": " + what);
+        System.out.println((promise == ABOUT ? "what it is" : promise == TERMS ? "terms" : "promise " + promise) + quoted + ": " + what);
     }
 
     static void due(String call, long got, long want) {
@@ -84,6 +86,7 @@ abstract class Checks {
             String all = Files.readString(Path.of("../shared/DOC.md"), StandardCharsets.UTF_8);
             for (String part : all.split("\n## ")) {
                 String title = part.split("[\n:]")[0];
+                if (title.equals("What it is")) PARAGRAPHS.put(ABOUT, plain(part));
                 if (title.equals("Terms")) PARAGRAPHS.put(TERMS, plain(part));
                 if (title.startsWith("Promise ")) PARAGRAPHS.put(Integer.parseInt(title.substring(8)), plain(part));
             }
@@ -95,7 +98,7 @@ abstract class Checks {
 
     /** Terms and promises of which no sentence was tested are told. */
     static void dueSentencesOfAll() {
-        for (promise = TERMS; promise <= PROMISES; promise++) {
+        for (promise = ABOUT; promise <= PROMISES; promise++) {
             sentence = "";
             if (!QUOTED.containsKey(promise)) complain("no sentence of it is tested");
         }

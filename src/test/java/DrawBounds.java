@@ -135,6 +135,14 @@ final class DrawBounds extends Checks {
             due(x.who(other, 0), 1);
         }
 
+        // What went over in the HOUR before does not go with them.
+        TravelMarks before = told("mark on 5; mark on 0; touch 0:5 with 7; chance 99;");
+        before.hours(1);
+        before.seed(seedOf(0, 49, 1));
+        before.hour();
+        dueMark(before, 0, MARK, 8, 7);
+        dueMark(before, 1, MARK, 8, 1);
+
         sentence(TERMS, "as in an HOUR that begins now");
         TravelMarks x = told("anchor on 0 ink 99; snake on 7; ship on 0; mark on 7; chance 99; load 2;");
         x.seed(seedOf(0, 0, 7));

@@ -517,6 +517,18 @@ final class PortBounds extends Checks {
         due(x.who(0, 0), 128);
         due(x.who(7, 0), 127);
 
+        sentence(TERMS, "OF one: the MARKS ON it.");
+        for (int mark = 0; mark < 8; mark++) {
+            due(x.who(x.of(mark, 2), 0) >> mark & 1, 1);
+        }
+
+        sentence(TERMS, "Sets are told by bits.");
+        due(x.who(0, 0), 0x80);
+        due(x.who(0, 1), 0x01);
+        due(x.who(7, 1), 0x80);
+        due(x.state(2), 0x81);
+        due(x.state(4), 0xFF);
+
         sentence(13, "1 its CIRCLE, as a set");
         due(x.who(0, 1), 1);
         due(x.who(7, 1), 128);

@@ -13,6 +13,7 @@ final class RowBounds extends Checks {
         manyCall();
         keepCall();
         againCall();
+        callsOfOneObject();
     }
 
     // ---- ROWS
@@ -470,5 +471,18 @@ final class RowBounds extends Checks {
         due(x.many(3), 1);
         x.keep();
         due(x.again(), 1);
+    }
+
+    private static void callsOfOneObject() {
+        sentence(ABOUT, "An object is used for at most 512 calls after it has been made");
+        TravelMarks x = new TravelMarks();
+        x.mark(NAME, 1, 0);
+        x.touch(0, 0, 1);
+        for (int i = 2; i < 510; i++) {
+            x.hours(1);
+        }
+        // 508 HOURS, 85 of them with a touch; these are the last two of 512 calls.
+        due(x.state(0), 508);
+        due(x.of(0, 2), 1);
     }
 }

@@ -142,6 +142,9 @@ final class TextBounds extends Checks {
         TravelMarks x = told("mark on 1; touch 0:1 with 2; load 8; fade 9; tide 9; chance 99;");
         x.hours(7);
         x.seed(-5);
+        // What was tried before is no part of it either.
+        x.where(0, 60);
+        x.stir(3);
         due(x.port(), 0);
         due(x.many(0), 0);
         due(x.many(3), 0);
@@ -151,6 +154,12 @@ final class TextBounds extends Checks {
         due(x.lawOf(3), 20);
         due(x.state(0), 0);
         due(x.seed(0), -5);
+        // A text with a FAULT leaves nothing of what it told before that to the next one.
+        due(ported(x, "load 1; touch 3:1 with 2; mark on 1; ;"), fault(37));
+        due(ported(x, "name on 2;"), 1);
+        dueMark(x, 0, NAME, 9, 2);
+        due(x.many(3), 0);
+        due(x.lawOf(0), 3);
     }
 
     private static void namesAndNumbers() {
