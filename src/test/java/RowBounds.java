@@ -175,6 +175,8 @@ final class RowBounds extends Checks {
         dueAll(BAD, x.minds(0, 0, -1, 1), x.minds(0, 0, 3, 0), x.minds(0, 0, 8, 0), x.minds(0, 0, LEAST, 1));
         dueAll(BAD, x.minds(0, 0, 0, -1), x.minds(0, 0, 0, LEAST), x.minds(0, 0, MOST, 1), x.minds(0, 0, 2, MOST));
         dueAll(BAD, x.minds(0, 0, 0, 4), x.minds(0, 0, 1, 3), x.minds(0, 0, 2, 2), x.minds(0, 0, 0, 8));
+        // These stand before a place outside.
+        dueAll(BAD, x.minds(0, -1, 3, 1), x.minds(0, 10, 0, -1), x.minds(0, -1, 0, 9), x.minds(0, 10, 0, 4), x.minds(0, 9, 2, 2));
         dueInks(x, 9, 9, 9);
         due(x.minds(0, 0, 0, 3), 3);
         due(x.minds(0, 0, 2, 1), 1);
