@@ -11,8 +11,8 @@ abstract class Checks {
     static final int NO_ROW = -9, NOTHING = -11, OUTSIDE = -12, OTHER_SORT = -13, BELOW_0 = -14, PARTED_BY_0 = -15;
     static final int LEAST = Integer.MIN_VALUE, MOST = Integer.MAX_VALUE;
     static final int MARK = 0, SHIP = 1, SNAKE = 2, ANCHOR = 3, DRAGON = 4, NAME = 5;
-    /** What is no promise's is told by these two. */
-    static final int ABOUT = -1, TERMS = 0;
+    /** What is no promise's is told by these: the page README.md, and what the document says outside of promises. */
+    static final int PAGE = -2, ABOUT = -1, TERMS = 0;
     static final int PROMISES = 44;
     static final String[] KINDS = {"mark", "ship", "snake", "anchor", "dragon", "name"};
     static final String[] LAWS = {"load", "fade", "tide", "chance"};
@@ -36,7 +36,16 @@ abstract class Checks {
     static void complain(String what) {
         wrong++;
         String quoted = sentence.isEmpty() ? "" : " \"" + sentence + "\"";
-        System.out.println((promise == ABOUT ? "what it is" : promise == TERMS ? "terms" : "promise " + promise) + quoted + ": " + what);
+        System.out.println(place() + quoted + ": " + what);
+    }
+
+    private static String place() {
+        return switch (promise) {
+            case PAGE -> "README.md";
+            case ABOUT -> "what it is";
+            case TERMS -> "terms";
+            default -> "promise " + promise;
+        };
     }
 
     static void due(String call, long got, long want) {
@@ -74,7 +83,7 @@ abstract class Checks {
         return text.replaceAll("\\s+", " ");
     }
 
-    private static String paragraph(int ofPromise) {
+    static String paragraph(int ofPromise) {
         if (PARAGRAPHS.isEmpty()) {
             readDocument();
         }

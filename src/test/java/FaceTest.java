@@ -7,7 +7,9 @@ import java.nio.charset.StandardCharsets;
 import java.nio.file.Files;
 import java.nio.file.Path;
 import java.util.Arrays;
+import java.util.Map;
 import java.util.Set;
+import java.util.TreeMap;
 import java.util.TreeSet;
 import java.util.regex.Matcher;
 import java.util.regex.Pattern;
@@ -134,6 +136,48 @@ public final class FaceTest {
             must(allowed.contains(call), "the library's " + call);
         }
         methodsAreShort(text);
+        must(!Pattern.compile("\\bstatic\\s*\\{").matcher(code).find(), "a static initialiser block");
+        nothingIsMadeByCalls(code);
+        callsAreNotDeep(code);
+    }
+
+    /** Rule 12 and the room that all calls share: what is made is made with the object, by its fields and constructor. */
+    private static void nothingIsMadeByCalls(String code) {
+        Pattern made = Pattern.compile("^ +(private )?final [\\w\\[\\]]+ \\w+ = new .*;$|^ +(sheets|shelves)\\[i\\] = new \\w+\\(\\);$");
+        for (String line : code.split("\n")) {
+            must(!Pattern.compile("\\bnew\\b").matcher(line).find() || made.matcher(line).matches(), "made by a call: " + line.strip());
+        }
+    }
+
+    /** Rules 8 and 11, by the names of the methods: one alone calls itself, and the others go at most eight deep. */
+    private static void callsAreNotDeep(String code) {
+        Map<String, Set<String>> calls = new TreeMap<>();
+        Matcher method = Pattern.compile("(?ms)^( {4,8})(?:\\w+ )*?\\w+ (\\w+)\\([^()]*\\) \\{\\n(.*?)^\\1\\}").matcher(code);
+        for (int at = 0; method.find(at); at = method.start(3)) {
+            Set<String> called = calls.computeIfAbsent(method.group(2), name -> new TreeSet<>());
+            Matcher call = Pattern.compile("\\b([a-z]\\w*)\\(").matcher(method.group(3));
+            while (call.find()) {
+                called.add(call.group(1));
+            }
+        }
+        must(calls.size() > 100, "the methods are not seen: " + calls.keySet());
+        for (String name : calls.keySet()) {
+            boolean itself = calls.get(name).remove(name);
+            must(itself == name.equals("run"), name + "() calls itself");
+        }
+        for (String name : calls.keySet()) {
+            must(depth(calls, name, 0) <= 8, name + "() goes more than eight calls deep");
+        }
+    }
+
+    /** How many calls stand open at most below and with this one; methods that call one another have no end, but a bound. */
+    private static int depth(Map<String, Set<String>> calls, String name, int above) {
+        int below = 0;
+        if (above > 8) return 1;
+        for (String called : calls.get(name)) {
+            if (calls.containsKey(called)) below = Math.max(below, depth(calls, called, above + 1));
+        }
+        return 1 + below;
     }
 
     private static void methodsAreShort(String text) {

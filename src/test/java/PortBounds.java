@@ -631,6 +631,11 @@ final class PortBounds extends Checks {
         due(spread.state(5), 1);
         spread.move(0, 7);
         due(spread.state(5), 2);
+        for (int who = 0; who < 8; who++) {
+            TravelMarks x = new TravelMarks();
+            more(x, 8, MARK, 1, who);
+            due(x.state(5), 8);
+        }
 
         sentence(18, "BAD.");
         dueAll(BAD, all.state(-1), all.state(6), all.state(LEAST), all.state(MOST));
